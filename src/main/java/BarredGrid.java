@@ -845,6 +845,12 @@ public final class BarredGrid {
                 return;
             }
             used |= 1L << c;
+            visitBehind(puzzle, depth, c);
+            used &= ~(1L << c);
+        }
+
+        private void visitBehind(Puzzle puzzle, int depth, int c) {
+            State state = puzzle.state;
             for (int k = 0; k < STEP_ROWS.length && k < STEP_COLUMNS.length; k++) {
                 int row = state.rowOf(c) + STEP_ROWS[k];
                 int column = state.columnOf(c) + STEP_COLUMNS[k];
@@ -852,7 +858,6 @@ public final class BarredGrid {
                     visit(puzzle, depth + 1, row * state.columns + column);
                 }
             }
-            used &= ~(1L << c);
         }
 
         private boolean isAllowed(Puzzle puzzle, int depth, int c) {
@@ -914,12 +919,19 @@ public final class BarredGrid {
             for (int w = 0; w < puzzle.state.wordCount; w++) {
                 boolean free = ((fitting[e] & ~used) >> w & 1) == 1;
                 if (free && agrees(puzzle, e, w)) {
-                    given[e] = w;
-                    used |= 1 << w;
-                    giveFrom(puzzle, e + 1);
-                    used &= ~(1 << w);
+                    give(puzzle, e, w);
                 }
             }
+        }
+
+        private void give(Puzzle puzzle, int e, int w) {
+            if (e < 0 || e >= MOST_WORDS) {
+                return;
+            }
+            given[e] = w;
+            used |= 1 << w;
+            giveFrom(puzzle, e + 1);
+            used &= ~(1 << w);
         }
 
         /** Whether the word gives the cells the letters that earlier entries give them. */

@@ -572,6 +572,7 @@ public final class PromisesTest {
         Check.due("hardest 2", 2, loaded("G22ab../ab/cd/ac/bd/ad").hardest());
         Check.due("hardest, full", NONE, loaded("G22abcd/ab").hardest());
         Check.due("hardest without entries", NONE, loaded("G22.|_._.|.").hardest());
+        Check.due("hardest with all words fitting", 0, loaded("G22..../ab/ab/ab/ab/ab/ab/ab/ab").hardest());
         Check.due("hardest without words", 0, new BarredGrid().hardest());
         // The first row is full and fits nothing, but is not to be filled.
         Check.due("hardest that is not full", 1, loaded("G22x_y_../ab").hardest());
@@ -586,6 +587,13 @@ public final class PromisesTest {
         fail(x, 0, 1, 9999, 10026, 10098, 10400, 19900, 20002, 20020, 20101, 20211, 22011, 23001, 30001, 30400, 34000, 30040,
             39900, 40001, 40010, 40400, 44000, 55000, 59000, 50100, 50010, 50001, 60001, 61000, 70005, 70010, 70014, 70400,
             80001, 80003, 80012, 80400, 84000, 84002, 90003, 90005, 91004, 90104);
+        // 12 entries of 6 cells; 11 is the last row, which is the word, 1 the first column.
+        BarredGrid large = loaded("G66" + "abcdef".repeat(6) + "/abcdef");
+        succeed(large, 13525, 13599, 23401, 22911, 31100, 41100, 71000, 71101, 83502, 90012, 60000);
+        fail(large, 13625, 23501, 23011, 30100, 31200, 41200, 71200, 70101, 83602, 83501, 90011, 60001);
+        BarredGrid many = loaded("G66" + "a_".repeat(30) + "aaaaaa=aa");
+        succeed(many, 60000, 60099, 60100, 60160);
+        fail(many, 60161, 60200, 60999);
         Check.due("two", NONE, x.runScript(2, 3000080002L));
         Check.due("written, then another word", 1, x.runScript(2, 3000030020L));
         Check.due("written, then the same", NONE, x.runScript(2, 3000030000L));
@@ -652,6 +660,11 @@ public final class PromisesTest {
         Check.throwsIt("m 100", ARGUMENT, () -> x.simulate(1, 100));
         Check.throwsIt("m -1", ARGUMENT, () -> x.simulate(1, -1));
         // From one grid, in two calls of equal arguments.
+        // The bar below 0 takes an entry away, the one to the right of 0 does not.
+        Check.due("simulate a bar below", 4040, loaded("G23......").simulate(seedFor(2), 1));
+        Check.due("simulate a bar to the right", 4050, loaded("G23......").simulate(seedFor(0), 1));
+        Check.due("simulate b in the place of c", 2039, loaded("G33b_c_b_b_b_b_bbb=b").simulate(seedFor(129), 1));
+        Check.due("simulate a again", 2031, loaded("G33b_b_b_b_b_b_bbb=a").simulate(seedFor(385), 1));
         Check.due("m 99 again", x.simulate(Long.MIN_VALUE, 99), x.simulate(Long.MIN_VALUE, 99));
     }
 
