@@ -1,3 +1,5 @@
+import java.lang.reflect.InvocationTargetException;
+import java.lang.reflect.Method;
 import java.util.Random;
 
 /** Long runs of calls whose answers must be those of Reference; the runs are always the same. */
@@ -7,8 +9,8 @@ public final class DifferentialTest {
         "possible", "fillings", "mend", "hardest", "runScript", "simulate", "save", "restore"};
 
     private final Random random;
-    private BarredGrid built = new BarredGrid();
-    private Reference told = new Reference();
+    private final BarredGrid built = new BarredGrid();
+    private final Reference told = new Reference();
     private final StringBuilder log = new StringBuilder();
     private int calls = 0;
     private int cells = 9;
@@ -122,7 +124,7 @@ public final class DifferentialTest {
             case "fits": case "erase": return compare(name, number(entries()), 0, 0);
             case "rule": return compare(name, number(5), 0, 0);
             case "put": return compare(name, number(cells), random.nextInt(9) == 0 ? number(130) : someLetter(), 0);
-            case "setBar": return compare(name, number(cells), random.nextInt(4), 0);
+            case "setBar": return compare(name, number(cells), 2 * random.nextInt(4), 0);
             case "write": return compare(name, number(entries()), number(words()), 0);
             case "runScript": return compareScript();
             case "simulate": return compare(name, number(100), 0, random.nextLong());
@@ -173,8 +175,8 @@ public final class DifferentialTest {
 
     private boolean compare(String name, int a, int b, long s) {
         calls++;
-        String want = answer(told, null, name, a, b, s);
-        String got = answer(null, built, name, a, b, s);
+        String want = answer(told, name, a, b, s);
+        String got = answer(built, name, a, b, s);
         log.append(name).append(' ').append(a).append(' ').append(b).append(' ').append(s).append(": ").append(got)
             .append('\n');
         if (name.equals("load") && want.charAt(0) != 'j') {
@@ -186,75 +188,37 @@ public final class DifferentialTest {
         return want.equals(got);
     }
 
-    private static String answer(Reference r, BarredGrid x, String name, int a, int b, long s) {
+    private static String answer(Object x, String name, int a, int b, long s) {
+        for (Method m : x.getClass().getDeclaredMethods()) {
+            if (m.getName().equals(name)) {
+                return answer(x, m, arguments(m, a, b, s));
+            }
+        }
+        throw new AssertionError("there is no " + name);
+    }
+
+    private static String answer(Object x, Method m, Object[] arguments) {
         try {
-            return String.valueOf(r == null ? ofBuilt(x, name, a, b, s) : ofTold(r, name, a, b, s));
-        } catch (RuntimeException e) {
-            return e.getClass().getName();
+            return m.invoke(x, arguments).toString();
+        } catch (InvocationTargetException e) {
+            return e.getCause().getClass().getName();
+        } catch (IllegalAccessException e) {
+            throw new AssertionError(e);
         }
     }
 
-    private static int ofBuilt(BarredGrid x, String name, int a, int b, long s) {
-        return switch (name) {
-            case "append" -> x.append(a);
-            case "clearText" -> x.clearText();
-            case "errorPosition" -> x.errorPosition();
-            case "load" -> x.load();
-            case "about" -> x.about(a);
-            case "cell" -> x.cell(a, b);
-            case "entry" -> x.entry(a, b);
-            case "word" -> x.word(a, b);
-            case "fits" -> x.fits(a);
-            case "rule" -> x.rule(a) ? 1 : 0;
-            case "readings" -> x.readings();
-            case "reading" -> x.reading(a);
-            case "put" -> x.put(a, b);
-            case "setBar" -> x.setBar(a, b / 2 == 1, b % 2 == 1);
-            case "addWord" -> x.addWord();
-            case "setLine" -> x.setLine();
-            case "write" -> x.write(a, b);
-            case "erase" -> x.erase(a);
-            case "undo" -> x.undo();
-            case "possible" -> x.possible();
-            case "fillings" -> x.fillings();
-            case "mend" -> x.mend();
-            case "hardest" -> x.hardest();
-            case "runScript" -> x.runScript(a, s);
-            case "simulate" -> x.simulate(s, a);
-            case "save" -> x.save(a);
-            default -> x.restore(a);
-        };
-    }
-
-    private static int ofTold(Reference x, String name, int a, int b, long s) {
-        return switch (name) {
-            case "append" -> x.append(a);
-            case "clearText" -> x.clearText();
-            case "errorPosition" -> x.errorPosition();
-            case "load" -> x.load();
-            case "about" -> x.about(a);
-            case "cell" -> x.cell(a, b);
-            case "entry" -> x.entry(a, b);
-            case "word" -> x.word(a, b);
-            case "fits" -> x.fits(a);
-            case "rule" -> x.rule(a) ? 1 : 0;
-            case "readings" -> x.readings();
-            case "reading" -> x.reading(a);
-            case "put" -> x.put(a, b);
-            case "setBar" -> x.setBar(a, b / 2 == 1, b % 2 == 1);
-            case "addWord" -> x.addWord();
-            case "setLine" -> x.setLine();
-            case "write" -> x.write(a, b);
-            case "erase" -> x.erase(a);
-            case "undo" -> x.undo();
-            case "possible" -> x.possible();
-            case "fillings" -> x.fillings();
-            case "mend" -> x.mend();
-            case "hardest" -> x.hardest();
-            case "runScript" -> x.runScript(a, s);
-            case "simulate" -> x.simulate(s, a);
-            case "save" -> x.save(a);
-            default -> x.restore(a);
-        };
+    /** The int arguments are a and b, a long one is s, and the two bits of b are the boolean ones. */
+    private static Object[] arguments(Method m, int a, int b, long s) {
+        Class<?>[] types = m.getParameterTypes();
+        Object[] all = new Object[types.length];
+        int ints = 0;
+        for (int i = 0; i < types.length; i++) {
+            if (types[i] == int.class) {
+                all[i] = ints++ == 0 ? a : b;
+            } else {
+                all[i] = types[i] == long.class ? (Object) s : (Object) ((b >> i & 1) == 1);
+            }
+        }
+        return all;
     }
 }

@@ -553,6 +553,8 @@ public final class PromisesTest {
         Check.due("mend 0", 0, loaded("G33.|........").mend());
         // The turned one of the bar below 4 is the one below 1.
         Check.due("mend 3", 3, loaded("G33....._....").mend());
+        // The turned bar would keep rule 0, but part the columns.
+        Check.due("mend 4", 4, loaded("G22...|.").mend());
         Check.due("mend of two bars", NONE, loaded(SMALL).mend());
         // Taking away either bar breaks rule 0, but joins the columns; the smaller place is 0.
         Check.due("mend of columns", 0, loaded("G22.|..|.").mend());
@@ -663,6 +665,8 @@ public final class PromisesTest {
         // The bar below 0 takes an entry away, the one to the right of 0 does not.
         Check.due("simulate a bar below", 4040, loaded("G23......").simulate(seedFor(2), 1));
         Check.due("simulate a bar to the right", 4050, loaded("G23......").simulate(seedFor(0), 1));
+        // The bar below 2 is the turned one of that below 0; then two cells of each row are unchecked.
+        Check.due("simulate the turned bar", 4030, loaded("G23._.....").simulate(seedFor(10), 1));
         Check.due("simulate b in the place of c", 2039, loaded("G33b_c_b_b_b_b_bbb=b").simulate(seedFor(129), 1));
         Check.due("simulate a again", 2031, loaded("G33b_b_b_b_b_b_bbb=a").simulate(seedFor(385), 1));
         Check.due("m 99 again", x.simulate(Long.MIN_VALUE, 99), x.simulate(Long.MIN_VALUE, 99));
