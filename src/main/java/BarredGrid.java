@@ -231,9 +231,10 @@ public final class BarredGrid {
             int c = place / 2;
             boolean below = place % 2 == 1;
             if (trial.state.isPlace(c, below)) {
-                trial.turnBar(c, below);
+                boolean is = trial.state.hasBar(c, below);
+                trial.changeBar(c, below, !is);
                 int kept = Rules.countKept(trial);
-                trial.turnBar(c, below);
+                trial.changeBar(c, below, is);
                 if (kept > mostKept) {
                     mostKept = kept;
                     best = place;
@@ -352,9 +353,9 @@ public final class BarredGrid {
         }
         if (r % 2 == 0) {
             int place = r / 2 % (2 * cells);
-            if (trial.state.isPlace(place / 2, place % 2 == 1)) {
-                trial.turnBar(place / 2, place % 2 == 1);
-            }
+            int c = place / 2;
+            boolean below = place % 2 == 1;
+            trial.changeBar(c, below, !trial.state.hasBar(c, below));
         } else {
             trial.state.setLetter(r / 2 % cells, 'a' + r / 128 % 3);
         }
@@ -532,13 +533,14 @@ public final class BarredGrid {
             layOut();
         }
 
-        void changeBar(int c, boolean below, boolean is) {
+        /** Answers whether there is a place for a bar. */
+        boolean changeBar(int c, boolean below, boolean is) {
+            if (!state.isPlace(c, below)) {
+                return false;
+            }
             state.drawBar(c, below, is);
             layOut();
-        }
-
-        void turnBar(int c, boolean below) {
-            changeBar(c, below, !state.hasBar(c, below));
+            return true;
         }
 
         private void layOut() {
@@ -959,13 +961,14 @@ public final class BarredGrid {
             int d5 = group % 10;
             int front = 10 * d2 + d3;
             int back = 10 * d4 + d5;
+            int least = 100 * d3 + back;
             switch (group / 10000) {
                 case 1: return putsLetter(puzzle, front, back);
-                case 2: return d4 <= 1 && d5 <= 1 && changesBar(puzzle, front, d4 == 1, d5 == 1);
+                case 2: return d4 <= 1 && d5 <= 1 && puzzle.changeBar(front, d4 == 1, d5 == 1);
                 case 3: return d5 == 0 && fillsEntry(puzzle, front, d4);
                 case 4: return back == 0 && clearsEntry(puzzle, front);
                 case 5: return d3 == 0 && back == 0 && Rules.areKept(puzzle, d2);
-                case 6: return d2 == 0 && hasReadings(puzzle, search, 100 * d3 + back);
+                case 6: return d2 == 0 && search.count(puzzle, false, least) >= least;
                 case 7: return d4 == 0 && puzzle.hasEntry(front) && puzzle.fitCount(front) >= d5;
                 case 8: return d4 == 0 && puzzle.state.hasCell(front) && puzzle.entriesAt(front) == d5;
                 case 9: return front == 0 && puzzle.entryCount == back;
@@ -979,14 +982,6 @@ public final class BarredGrid {
                 return false;
             }
             puzzle.state.setLetter(c, letter);
-            return true;
-        }
-
-        private static boolean changesBar(Puzzle puzzle, int c, boolean below, boolean is) {
-            if (!puzzle.state.isPlace(c, below)) {
-                return false;
-            }
-            puzzle.changeBar(c, below, is);
             return true;
         }
 
@@ -1004,10 +999,6 @@ public final class BarredGrid {
             }
             puzzle.clearEntry(e);
             return true;
-        }
-
-        private static boolean hasReadings(Puzzle puzzle, LineSearch search, int least) {
-            return search.count(puzzle, false, least) >= least;
         }
     }
 
