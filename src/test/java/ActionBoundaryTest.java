@@ -567,14 +567,17 @@ public final class ActionBoundaryTest {
     private static void undoTakesBackEverything() {
         Check.CallOn[] calls = {x -> x.put(11, 'z'), x -> x.setBar(5, false, true), x -> x.setBar(6, true, true),
             BarredGrid::addWord, BarredGrid::setLine, x -> x.write(1, 0), x -> x.erase(5), x -> x.setBar(0, false, false)};
+        String before = Watch.state(Make.loaded(Make.LARGER));
         for (int i = 0; i < calls.length; i++) {
-            BarredGrid x = Make.loaded(Make.LARGER);
-            Make.type(x, "bxb");
-            String before = Watch.state(x);
-            calls[i].answer(x);
-            Check.due("call " + i + " changes something", false, before.equals(Watch.state(x)));
-            Check.due("undo of call " + i, 0, x.undo());
-            Check.due("call " + i + " is taken back", true, before.equals(Watch.state(x)));
+            BarredGrid done = Make.loaded(Make.LARGER);
+            Make.type(done, "bxb");
+            calls[i].answer(done);
+            Check.due("call " + i + " changes something", false, before.equals(Watch.state(done)));
+            BarredGrid undone = Make.loaded(Make.LARGER);
+            Make.type(undone, "bxb");
+            calls[i].answer(undone);
+            Check.due("undo of call " + i, 0, undone.undo());
+            Check.due("call " + i + " is taken back", true, before.equals(Watch.state(undone)));
         }
     }
 

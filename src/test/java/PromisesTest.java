@@ -50,7 +50,6 @@ public final class PromisesTest {
         simulate();
         save();
         restore();
-        throwingChangesNothing();
         Check.end();
     }
 
@@ -697,31 +696,5 @@ public final class PromisesTest {
         x.put(0, 'q');
         Check.due("the slot keeps it", 6, x.restore(1));
         Check.due("it is the same", true, first.equals(shown(x)));
-    }
-
-    // ---- a call that throws an exception changes nothing
-
-    private static void throwingChangesNothing() {
-        BarredGrid x = Make.loaded(SMALL);
-        x.put(4, 'q');
-        x.save(0);
-        x.put(4, 'r');
-        String before = shown(x);
-        Check.Call[] calls = {() -> x.put(9, 'a'), () -> x.put(0, 1), () -> x.setBar(2, false, true),
-            () -> x.setBar(-1, false, true), () -> x.write(0, 0), () -> x.write(9, 0), () -> x.write(0, 9),
-            () -> x.erase(6), () -> x.restore(1), () -> x.restore(2), () -> x.save(2), () -> x.append(256),
-            () -> x.addWord(), () -> x.setLine(), () -> x.runScript(0, 0), () -> x.simulate(0, 0)};
-        for (Check.Call call : calls) {
-            boolean threw = false;
-            try {
-                call.answer();
-            } catch (RuntimeException e) {
-                threw = true;
-            }
-            Check.due("it throws", true, threw);
-            Check.due("what it leaves is the same", true, before.equals(shown(x)));
-        }
-        Check.due("the actions are the same", 1, x.undo());
-        Check.due("the text is the same", SMALL.length(), x.clearText());
     }
 }

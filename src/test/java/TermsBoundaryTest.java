@@ -500,6 +500,10 @@ public final class TermsBoundaryTest {
             }
         }
         Check.due("down alone", false, Make.loaded("G32.|..|..|.").rule(2));
+        // Three of the four cells in the first row, or in the last one, are unchecked; all others are checked.
+        Check.due("the first entry alone", false, Make.loaded(Make.grid(3, 4, ".", NO, c -> c < 3)).rule(2));
+        Check.due("the last entry alone", false, Make.loaded(Make.grid(3, 4, ".", NO, c -> c > 4)).rule(2));
+        Check.due("two of the first alone", true, Make.loaded(Make.grid(3, 4, ".", NO, c -> c < 2)).rule(2));
         Check.due("without entries", true, Make.loaded(Make.WALLS).rule(2));
     }
 
@@ -511,6 +515,10 @@ public final class TermsBoundaryTest {
             Check.due("unchecked as the bits of " + bars, (bars & bars >> 1) == 0, x.rule(3));
             BarredGrid y = Make.loaded(Make.grid(6, 2, ".", c -> (all >> c / 2 & 1) == 1, NO));
             Check.due("unchecked down as the bits of " + bars, (bars & bars >> 1) == 0, y.rule(3));
+            BarredGrid first = Make.loaded(Make.grid(3, 6, ".", NO, c -> c < 6 && (all >> c & 1) == 1));
+            Check.due("in the first entry alone, " + bars, (bars & bars >> 1) == 0, first.rule(3));
+            BarredGrid last = Make.loaded(Make.grid(3, 6, ".", NO, c -> c >= 6 && (all >> c % 6 & 1) == 1));
+            Check.due("in the last entry alone, " + bars, (bars & bars >> 1) == 0, last.rule(3));
         }
         Check.due("without entries", true, Make.loaded(Make.WALLS).rule(3));
     }

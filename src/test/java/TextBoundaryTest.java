@@ -353,6 +353,16 @@ public final class TextBoundaryTest {
     }
 
     private static void errorPositionChangesNothing() {
+        // Nor does what it has read of one text, or of the beginning of one, come into the next.
+        for (String signs : new String[] {NEARLY_FULL, NEARLY_FULL + "/", "G22z|_z_z|z/zz/zz/zz/zz/zz/zz/zz/zz=zzzzzz=", "G22z|_z_"}) {
+            BarredGrid x = Make.typed(signs);
+            int first = x.errorPosition();
+            Check.due("errorPosition again", first, x.errorPosition());
+            Make.type(x, "G22a.../ab=c");
+            Check.due("errorPosition of the next", NONE, x.errorPosition());
+            Check.due("load of the next", 4, x.load());
+            Check.due("its state", true, Watch.state(x).equals(Watch.state(Make.loaded("G22a.../ab=c"))));
+        }
         for (String signs : new String[] {"", "G", "G22....", "G22.|_./ab", "G66" + ".".repeat(36) + "/ab=c", "ab"}) {
             Check.changesNothing("errorPosition of " + signs, () -> Make.busy(signs), BarredGrid::errorPosition);
         }
@@ -379,6 +389,12 @@ public final class TextBoundaryTest {
             Make.type(x, signs);
             x.load();
             Check.due("load " + signs + " over a large one", true, Watch.state(x).equals(Watch.state(Make.loaded(signs))));
+        }
+        for (String signs : texts) {
+            BarredGrid x = Make.loaded(NEARLY_FULL);
+            Make.type(x, signs);
+            x.load();
+            Check.due("load " + signs + " over all bars", true, Watch.state(x).equals(Watch.state(Make.loaded(signs))));
         }
         BarredGrid x = Make.loaded(large);
         Make.type(x, "G22....");

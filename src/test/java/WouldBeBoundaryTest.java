@@ -17,6 +17,7 @@ public final class WouldBeBoundaryTest {
         fillingsOfFullEntries();
         fillingsNoWordTwice();
         fillingsSameLetter();
+        fillingsAtEachCrossing();
         fillingsMost();
         mendOfNone();
         mendFewestAndSmallest();
@@ -36,6 +37,7 @@ public final class WouldBeBoundaryTest {
         simulateReadings();
         simulateMostEntries();
         theyChangeNothing();
+        sameAnswerAgain();
         Check.end();
     }
 
@@ -138,6 +140,32 @@ public final class WouldBeBoundaryTest {
         Check.due("crossing wrongly in the middle", 0, Make.loaded(middle + "/abcdef/xycdba").fillings());
         // With a letter that the entry does not fit.
         Check.due("a letter against it", 0, Make.loaded("G22z.../ab/cd/ac/bd").fillings());
+    }
+
+    /** One entry across and one down, which begin at the rim or behind bars and cross in each of the cells. */
+    private static void fillingsAtEachCrossing() {
+        for (int row = 0; row < 6; row++) {
+            for (int column = 0; column < 6; column++) {
+                for (int left = 0; left <= column && left <= 4; left++) {
+                    for (int top = 0; top <= row && top <= 4; top++) {
+                        crossing(row, column, left, top);
+                    }
+                }
+            }
+        }
+    }
+
+    private static void crossing(int row, int column, int left, int top) {
+        String grid = Make.grid(6, 6, ".", c -> c / 6 != row || c % 6 < left, c -> c % 6 != column || c / 6 < top);
+        String across = "abcdef".substring(left);
+        String down = Make.with("z".repeat(6 - top), row - top, across.charAt(column - left));
+        // Of equal length, they can change places if they cross in the same letter of both.
+        int ways = left == top && row == column ? 2 : 1;
+        String what = "crossing in row " + row + ", column " + column + ", from " + left + " and " + top;
+        Check.due(what, ways, Make.loaded(grid + "/" + across + "/" + down).fillings());
+        Check.due(what + ", the other word first", ways, Make.loaded(grid + "/" + down + "/" + across).fillings());
+        String wrong = Make.with(down, row - top, 'y');
+        Check.due(what + ", with another letter", 0, Make.loaded(grid + "/" + across + "/" + wrong).fillings());
     }
 
     private static void fillingsMost() {
@@ -402,6 +430,10 @@ public final class WouldBeBoundaryTest {
         Check.due("a bar makes a reading", NONE, x.runScript(3, 200011000060001L));
         Check.due("no second reading", 2, x.runScript(3, 200011000060002L));
         Check.due("a word written, then erased", NONE, x.runScript(3, 300004000030010L));
+        Check.due("a word written, then another one", 1, x.runScript(2, 3000030010L));
+        Check.due("a word written, then one that it crosses", NONE, x.runScript(2, 3000030120L));
+        Check.due("a word written, then one that it does not cross", 1, x.runScript(2, 3000030130L));
+        Check.due("a word written makes a reading", NONE, x.runScript(3, 200113000060001L));
         Check.due("each script begins anew", NONE, x.runScript(1, 30010));
         Check.due("each script begins anew", NONE, x.runScript(1, 90004));
     }
@@ -525,5 +557,26 @@ public final class WouldBeBoundaryTest {
             Check.changesNothing("call " + i, () -> Make.busy("ab"), calls[i]);
             Check.changesNothing("call " + i + " on rows", () -> Make.busyIn(rows, "G22...."), calls[i]);
         }
+    }
+
+    /** The rows that the calls use again hold nothing of the last one. */
+    private static void sameAnswerAgain() {
+        BarredGrid x = Make.loaded("G22..../ab/cd/ac/bd");
+        BarredGrid rows = Make.loaded(Make.rows(3, 3, "a") + "=aa");
+        for (int i = 0; i < 3; i++) {
+            Check.due("fillings", 2, x.fillings());
+            Check.due("fillings of rows", 0, rows.fillings());
+            Check.due("possible", 16, rows.possible());
+            Check.due("readings", 16, rows.readings());
+            Check.dueAll("reading", new int[] {0, 5, NONE}, rows::reading);
+            Check.due("mend", NONE, x.mend());
+            Check.due("hardest", 0, x.hardest());
+            Check.due("runScript", 1, x.runScript(2, 3000030010L));
+            Check.due("simulate", Make.loaded("G22..../ab/cd/ac/bd").simulate(7, 99), x.simulate(7, 99));
+        }
+        x.put(0, 'b');
+        Check.due("fillings then", 0, x.fillings());
+        x.undo();
+        Check.due("fillings again", 2, x.fillings());
     }
 }
