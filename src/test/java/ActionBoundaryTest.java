@@ -5,6 +5,7 @@ public final class ActionBoundaryTest {
     private static final int NONE = -9;
     private static final int LEAST = Integer.MIN_VALUE;
     private static final int MOST = Integer.MAX_VALUE;
+    private static final String LETTERS = "abcdefghijklmnopqrstuvwxy";
 
     public static void main(String[] args) {
         putRefused();
@@ -38,6 +39,8 @@ public final class ActionBoundaryTest {
         refusedActionsAreNone();
         undoTakesBackEverything();
         undoKeepsTextAndSlots();
+        putAndSetBarChangeOnePlace();
+        writeAndEraseChangeOneEntry();
         Check.end();
     }
 
@@ -593,5 +596,76 @@ public final class ActionBoundaryTest {
         Check.due("its letter", 'a', x.cell(0, 0));
         Check.due("slot 0", 4, x.restore(0));
         Check.due("its letter", 0, x.cell(0, 0));
+    }
+
+    // ---- promises 14, 15, 18, 19: what they do not name stays
+
+    /** 5 rows and 5 columns; cells 11 to 13 are an entry across, and 7, 12 and 17 one down, with cells round them. */
+    private static String ringed(String letters) {
+        return Make.grid(5, 5, letters, c -> c == 10 || c == 13, c -> c == 2 || c == 17);
+    }
+
+    /** The text of the grid that an object has. */
+    private static String shown(BarredGrid x) {
+        StringBuilder letters = new StringBuilder();
+        for (int c = 0; c < x.about(0) * x.about(1); c++) {
+            letters.append(x.cell(c, 0) == 0 ? '.' : (char) x.cell(c, 0));
+        }
+        return Make.grid(x.about(0), x.about(1), letters.toString(), c -> x.cell(c, 1) == 1, c -> x.cell(c, 2) == 1);
+    }
+
+    private static void dueGrid(String what, String want, BarredGrid x) {
+        Check.due(what + ": " + shown(x) + ", due is " + want, true, want.equals(shown(x)));
+    }
+
+    private static void putAndSetBarChangeOnePlace() {
+        for (int c = 0; c < 25; c++) {
+            int cell = c;
+            BarredGrid x = Make.loaded(ringed(LETTERS));
+            x.put(c, 'z');
+            dueGrid("put into " + c, ringed(Make.with(LETTERS, c, 'z')), x);
+            x.put(c, 0);
+            dueGrid("empty " + c, ringed(Make.with(LETTERS, c, '.')), x);
+            BarredGrid bare = Make.loaded(Make.open(5, 5, LETTERS));
+            if (c % 5 < 4) {
+                bare.setBar(c, false, true);
+                dueGrid("bar beside " + c, Make.grid(5, 5, LETTERS, d -> d == cell, d -> false), bare);
+                bare.setBar(c, false, false);
+            }
+            if (c / 5 < 4) {
+                bare.setBar(c, true, true);
+                dueGrid("bar below " + c, Make.grid(5, 5, LETTERS, d -> false, d -> d == cell), bare);
+                bare.setBar(c, true, false);
+            }
+            dueGrid("no bars round " + c, Make.open(5, 5, LETTERS), bare);
+        }
+    }
+
+    private static void writeAndEraseChangeOneEntry() {
+        int entries = Make.loaded(ringed(LETTERS)).about(2);
+        for (int e = 0; e < entries; e++) {
+            BarredGrid x = Make.loaded(ringed(LETTERS) + "/zz/zzz/zzzz/zzzzz");
+            int length = x.entry(e, 2);
+            String without = LETTERS;
+            String with = LETTERS;
+            for (int i = 0; i < length; i++) {
+                int c = x.entry(e, 0) + i * (x.entry(e, 1) == 1 ? 5 : 1);
+                x.put(c, 0);
+                without = Make.with(without, c, '.');
+                with = Make.with(with, c, 'z');
+            }
+            dueGrid("before write " + e, ringed(without), x);
+            Check.due("write " + e, length, x.write(e, length - 2));
+            dueGrid("write " + e, ringed(with), x);
+            x.undo();
+            Check.due("erase " + e, 0, x.erase(e));
+            dueGrid("erase " + e, ringed(without), x);
+        }
+        for (int e = 0; e < 5; e++) {
+            String rest = LETTERS.substring(0, 5 * e) + "....." + LETTERS.substring(5 * e + 5);
+            BarredGrid rows = Make.loaded(Make.rows(5, 5, LETTERS));
+            Check.due("erase row " + e, 5, rows.erase(e));
+            dueGrid("erase row " + e, Make.rows(5, 5, rest), rows);
+        }
     }
 }
